@@ -2,6 +2,7 @@
 public final class BestTest {
     public static void main(String[] args) {
         best();
+        bestOfTenDays();
         bestOfManySorts();
         bestIsNoLessThanAnyPlan();
         rest();
@@ -41,6 +42,38 @@ public final class BestTest {
         x.way(2, 0);
         Check.finding(x, "best of MEN against a plan", 3, x.best(2, 0, 0), 3);
         Check.due("upper() as before", x.upper(), 403);
+    }
+
+    /** The greatest LAST day, and offers of 0 and 12. */
+    private static void bestOfTenDays() {
+        Check.promise("25 to 28 of ten days");
+        StrikeDays x = Check.quarrelOf("m1,0 o1,0 v20 h40 l10 w0");
+        x.way(0, 1);
+        x.way(1, 2);
+        x.set(0, 0, 10, 12);
+        Check.fraction(x, "12 on the tenth day", x.best(0, 0, 0), 12 * 31, 1);
+        Check.numbers(x, 1, 0, 13, 13, 13, 13, 13, 13, 13, 13, 13, 12);
+        Check.fraction(x, "12 by OWNERS on the tenth day", x.best(1, 1, 0), 20 * 30, 1);
+        Check.due("not taken ahead of nothing", x.rest(0, 1), 10);
+        Check.due("answer is 0", x.answer(0, 1), 1);
+        Check.numbersAre(x, 0, 0, 0, 0, 0, 0, 0, 0, 0, 0, 0, 0);
+        x = Check.quarrelOf("m1,0 o1,0 v20 h40 l10 w12");
+        x.way(0, 1);
+        x.way(1, 2);
+        Check.numbers(x, 1, 0, 13, 13, 13, 13, 13, 13, 13, 13, 13, 12);
+        Check.fraction(x, "12 on the tenth day, or behind it", x.best(1, 1, 0), 8 * 31, 1);
+        Check.due("answer is 12", x.answer(0, 1), 1);
+        Check.numbersAre(x, 0, 0, 0, 0, 0, 0, 0, 0, 0, 0, 0, 12);
+        Check.due("reply is 12", x.reply(1, 0), 0);
+        Check.due("at rest", x.rest(0, 1), StrikeDays.NONE);
+        x.set(0, 0, 10, 0);
+        Check.due("reply is never", x.reply(1, 0), 1);
+        Check.numbersAre(x, 1, 0, 13, 13, 13, 13, 13, 13, 13, 13, 13, 13);
+        x = Check.quarrelOf("m1,0 o1,0 v20 h40 l10 w0");
+        x.way(0, 1);
+        x.way(1, 2);
+        Check.due("reply is 0", x.reply(1, 0), 0);
+        Check.fraction(x, "nothing at all", x.best(0, 0, 0), 0, 1);
     }
 
     /** Two SORTS of OWNERS: on day 2 the one offers 9, the other one 0; on day 1 both 3. */

@@ -22,6 +22,9 @@ public final class LossTest {
         Check.fraction(x, "longer(0, 1) of none", x.longer(0, 1), 0, 1);
         x.way(2, 3);
         Check.fraction(x, "longer(0, 2) of a VOTE", x.longer(0, 2), 0, 1);
+        x = RunsTest.unevenChances();
+        // None for 3 of 10, one for 3 of 10, three for 4 of 10.
+        Check.fraction(x, "longer(0, 1) of uneven CHANCES", x.longer(0, 1), 3, 2);
     }
 
     private static void lost() {
@@ -33,6 +36,9 @@ public final class LossTest {
         Check.fraction(x, "lost(0, 1) without the JUDGE", x.lost(0, 1), 56, 3);
         x.notice(4);
         Check.fraction(x, "lost(0, 1), never SETTLED", x.lost(0, 1), 43, 1);
+        x = RunsTest.unevenChances();
+        // MEN 1: 14 by 1 of 10, 15 by 2 of 10; never: 3 times 14 and 3 times 16 by 2 of 10 each.
+        Check.fraction(x, "lost(0, 1) of uneven CHANCES", x.lost(0, 1), 112, 5);
     }
 
     private static void morning() {
@@ -48,6 +54,17 @@ public final class LossTest {
         Check.due("morning of OWNERS -1", x.morning(0, 1, -1, 0), StrikeDays.BAD);
         Check.due("morning of MEN 2", x.morning(0, 1, 0, 2), StrikeDays.BAD);
         Check.due("morning of MEN -1", x.morning(0, 1, 0, -1), StrikeDays.BAD);
+        StrikeDays z = Check.quarrelOf("m1,0 o1,0 v0 h1 l1 w0");
+        z.way(0, 1);
+        z.way(1, 2);
+        z.set(1, 0, 1, 13);
+        Check.due("morning of nothing", z.morning(0, 1, 0, 0), 0);
+        z = Check.quarrelOf("m1,0 o1,1 v0 h1 l1 w0");
+        z.way(0, 1);
+        z.way(1, 2);
+        z.set(1, 0, 1, 13);
+        // A day costs OWNERS 1: WAGE 0 is 1 more for them, WAGE 1 is 1 more for MEN.
+        Check.due("morning of 1 in all", z.morning(0, 1, 0, 0), 3);
         StrikeDays y = Check.quarrelOf("m1,0 o1,0 v12 h2 l1 w12");
         y.way(0, 1);
         y.way(1, 2);

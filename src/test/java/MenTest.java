@@ -122,6 +122,17 @@ public final class MenTest {
         // Only those who are not BACK are paid.
         Check.due("all(20, 0) with 5 BACK", x.all(20, 0), 5);
         refusedFunds(x);
+        StrikeDays y = new StrikeDays();
+        y.men(0, 99, 0, 100);
+        y.men(1, 1, 50, 100);
+        Check.due("99 in a hundred are not 100", y.gone(1, 0, 0), 99);
+        y.men(1, 1, 50, 99);
+        Check.due("99 in a hundred are 99", y.gone(1, 0, 0), 100);
+        for (int k = 0; k < 6; k++) {
+            y.men(k, 10, k == 5 ? 0 : 50, 100 * (5 - k) / 6);
+        }
+        // One draws the next, the whole row of them on the first day.
+        Check.due("all draw each other", y.all(0, 0), 1);
     }
 
     private static void turns() {
@@ -151,6 +162,27 @@ public final class MenTest {
         Check.due("LEFT stays", x.gone(50, 0, 0), 0);
         Check.due("one kind turns itself", x.turns(50), 0);
         Check.due("turns(51)", x.turns(51), StrikeDays.NONE);
+        turnsOfFewAndMany();
+    }
+
+    private static void turnsOfFewAndMany() {
+        StrikeDays x = new StrikeDays();
+        x.men(4, 1, 9, 100);
+        Check.due("one man turns all", x.turns(9), 4);
+        Check.due("without a FUND he goes by himself", x.turns(10), StrikeDays.NONE);
+        x.men(4, 99, 9, 100);
+        Check.due("the most men turn all", x.turns(9), 4);
+        x.men(3, 1, 9, 99);
+        Check.due("99 men turn one, by a day that comes ahead of his", x.turns(9), 4);
+        x.men(0, 0, 9, 1);
+        x.men(3, 1, 50, 0);
+        Check.due("kinds without MEN do not turn", x.turns(9), 4);
+        StrikeDays y = new StrikeDays();
+        y.men(0, 0, 50, 100);
+        y.men(1, 10, 4, 100);
+        y.men(2, 1, 9, 50);
+        Check.due("kind 1 turns all, and 2 not by day 4", y.turns(4), 1);
+        Check.due("all are BACK by day 5", y.turns(5), StrikeDays.NONE);
     }
 
     private static void fund() {
@@ -163,6 +195,9 @@ public final class MenTest {
         Check.due("fund(19, 1)", x.fund(19, 1), 1);
         Check.due("fund(20, 0)", x.fund(20, 0), 1);
         Check.due("fund(0, 20)", x.fund(0, 20), 99);
+        Check.due("fund(1979, 0)", x.fund(1979, 0), 98);
+        Check.due("fund(1980, 0)", x.fund(1980, 0), 99);
+        Check.due("fund(9999, 0)", x.fund(9999, 0), 99);
         x.men(1, 99, 0, 100);
         Check.due("fund for those not BACK", x.fund(20, 0), 1);
         x.men(0, 20, 0, 100);

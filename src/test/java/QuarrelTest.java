@@ -50,6 +50,9 @@ public final class QuarrelTest {
         faultIs("  m1,1  o1,1  ", StrikeDays.NONE);
         faultIs("o1,0m9,99", StrikeDays.NONE);
         faultIs("m01,1o1,01", StrikeDays.NONE);
+        faultIs("v1v1v1v1v1v1v1v1v1v1v1v1v1v1v1v1v1v1v1v1v1v1v1v1v1v1m1,1o1,1", StrikeDays.NONE);
+        faultIs(" ".repeat(52) + "m1,1o1,1", StrikeDays.NONE);
+        faultIs(" ".repeat(60), 60);
         faultIs("", 0);
         faultIs("   ", 3);
         faultIs("m", 1);
@@ -75,6 +78,8 @@ public final class QuarrelTest {
         faultIs("o1,1o1,1o1,1 o1,1", 13);
         faultIs("m1,1m1,1m1,1o1,1o1,1o1,1", StrikeDays.NONE);
         faultIs("m1,1o1,1h0", 10);
+        faultIs("m1,1o1,1h1l1", StrikeDays.NONE);
+        faultIs("m1,1o1,1h1l2", 12);
         faultIs("m1,1o1,1h41", 11);
         faultIs("m1,1o1,1h40l10w12v99", StrikeDays.NONE);
         faultIs("m1,1o1,1h400", 11);

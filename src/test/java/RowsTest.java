@@ -139,11 +139,17 @@ public final class RowsTest {
         x.lay(0, 0, Integer.MIN_VALUE);
         x.lay(0, 1, Integer.MIN_VALUE);
         Check.told(x, "mean(0) of MIN, MIN", x.mean(0), Integer.MIN_VALUE);
+        x.row(3, 1);
+        x.lay(3, 0, 9);
+        Check.told(x, "mean(3) of one", x.mean(3), 9);
+        x.row(4, 40);
+        x.lay(4, 39, 40);
+        Check.told(x, "mean(4) of forty", x.mean(4), 1);
         x.row(1, 0);
         Check.finding(x, "mean(1) of none", 0, x.mean(1), 4);
         Check.finding(x, "mean(2)", 0, x.mean(2), 1);
         Check.due("mean(6)", x.mean(6), StrikeDays.BAD);
         Check.due("mean(-1)", x.mean(-1), StrikeDays.BAD);
-        Check.due("asked() as before", x.asked(), Integer.MIN_VALUE);
+        Check.due("asked() as before", x.asked(), 1);
     }
 }

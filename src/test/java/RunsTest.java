@@ -21,6 +21,19 @@ public final class RunsTest {
         return x;
     }
 
+    /** Three of five OWNERS offer 5 each day, two nothing; half of the MEN take 5 from day 1 on, half from day 2 on. */
+    static StrikeDays unevenChances() {
+        StrikeDays x = Check.quarrelOf("m2,4 m2,6 o1,1 o2,2 o2,3 v7 h9 l3 w1");
+        x.way(0, 1);
+        Check.numbers(x, 0, 0, 5, 5, 5);
+        Check.numbers(x, 0, 1, 5, 5, 5);
+        Check.numbers(x, 0, 2, 0, 0, 0);
+        x.way(1, 2);
+        Check.numbers(x, 1, 0, 5, 5, 5);
+        Check.numbers(x, 1, 1, 13, 5, 5);
+        return x;
+    }
+
     private static void runIs(StrikeDays x, int take, int owners, int men, int day, int wage) {
         Check.due("run(0, " + take + ", " + owners + ", " + men + ")", x.run(0, take, owners, men), day);
         Check.due("its WAGE", x.asked(), wage);
@@ -178,6 +191,10 @@ public final class RunsTest {
         x.set(1, 0, 3, 13);
         x.judge(12, 1);
         Check.fraction(x, "never, without the JUDGE", x.end(0, 1, 4), 1, 3);
+        x = unevenChances();
+        Check.fraction(x, "end on day 1 of uneven CHANCES", x.end(0, 1, 1), 3, 10);
+        Check.fraction(x, "end on day 2 of uneven CHANCES", x.end(0, 1, 2), 3, 10);
+        Check.fraction(x, "end never of uneven CHANCES", x.end(0, 1, 4), 2, 5);
         Check.due("end on day 0", x.end(0, 1, 0), StrikeDays.BAD);
         Check.due("end on day 5", x.end(0, 1, 5), StrikeDays.BAD);
     }

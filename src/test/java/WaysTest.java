@@ -62,21 +62,27 @@ public final class WaysTest {
         Check.due("setAll(0, 2, 0)", x.setAll(0, 2, 0), 1);
         Check.numbersAre(x, 0, 2, 0, 1, 2, 3, 4, 5, 6, 7, 8, 9);
         Check.numbersAre(x, 0, 1, 0, 0, 0, 0, 0, 0, 0, 0, 0, 0);
+        x.lay(0, 0, 13);
+        Check.finding(x, "setAll with 13 on day 1 of an OFFER", 0, x.setAll(0, 2, 0), 3);
         x.lay(0, 0, 3);
         x.lay(0, 9, 13);
-        Check.finding(x, "setAll with 13 of an OFFER", 0, x.setAll(0, 2, 0), 3);
+        Check.finding(x, "setAll with 13 of an OFFER", 1, x.setAll(0, 2, 0), 3);
         Check.due("nothing changed", x.at(0, 2, 1), 0);
+        x.lay(0, 9, 12);
+        Check.due("setAll(0, 2, 0)", x.setAll(0, 2, 0), 1);
+        Check.numbersAre(x, 0, 2, 3, 1, 2, 3, 4, 5, 6, 7, 8, 12);
+        x.lay(0, 9, 13);
         x.way(1, 2);
         Check.due("setAll with 13 of a TAKE", x.setAll(1, 0, 0), 1);
         x.lay(0, 9, 14);
-        Check.finding(x, "setAll with 14 of a TAKE", 1, x.setAll(1, 0, 0), 3);
+        Check.finding(x, "setAll with 14 of a TAKE", 2, x.setAll(1, 0, 0), 3);
         x.way(2, 4);
         x.lay(0, 9, 99);
         Check.due("setAll with 99 of a BACK", x.setAll(2, 0, 0), 1);
         x.lay(0, 9, 100);
-        Check.finding(x, "setAll with 100 of a BACK", 2, x.setAll(2, 0, 0), 3);
+        Check.finding(x, "setAll with 100 of a BACK", 3, x.setAll(2, 0, 0), 3);
         x.lay(0, 9, 128);
-        Check.finding(x, "setAll with -128", 3, x.setAll(2, 0, 0), 3);
+        Check.finding(x, "setAll with -128", 4, x.setAll(2, 0, 0), 3);
         x.lay(0, 9, -256);
         Check.due("setAll with -256, which is 0", x.setAll(2, 0, 0), 1);
         Check.due("at(2, 0, 10)", x.at(2, 0, 10), 0);
@@ -132,6 +138,7 @@ public final class WaysTest {
         for (int kind = 0; kind <= 4; kind++) {
             x.way(kind, kind);
         }
+        Check.due("mark of an OFFER of nothing", x.mark(1, 1), 0);
         x.set(1, 2, 10, 11);
         x.set(1, 0, 3, 4);
         Check.due("mark of an OFFER", x.mark(1, 1), 11);
@@ -163,6 +170,9 @@ public final class WaysTest {
         Check.due("mark(-1, 1)", x.mark(-1, 1), StrikeDays.BAD);
         Check.finding(x, "mark(7, 1)", 0, x.mark(7, 1), 1);
         sortsToCarry("m1,1o1,1", 1);
+        sortsToCarry("m5,1m1,1o1,1", 1);
+        sortsToCarry("m2,1m2,1m2,1o1,1", 2);
+        sortsToCarry("m9,1m5,1m4,1o1,1", 2);
         sortsToCarry("m1,1m1,1o1,1", 2);
         sortsToCarry("m1,1m2,1o1,1", 1);
         sortsToCarry("m1,1m1,1m1,1o1,1", 2);
