@@ -175,7 +175,7 @@ public final class StrikeDays {
     }
 
     public int notice(int day) {
-        if (!isDay(day)) {
+        if (!within(day, 1, DAYS)) {
             return BAD;
         }
         int before = law.notice;
@@ -592,12 +592,9 @@ public final class StrikeDays {
         return within(w, 0, WAYS - 1);
     }
 
-    private static boolean isDay(int day) {
-        return within(day, 1, DAYS);
-    }
-
+    /** Without a call of its own, since it is asked at the bottom of the longest chains of calls. */
     private static boolean isPlace(int sort, int day) {
-        return within(sort, 0, SORTS - 1) && isDay(day);
+        return sort >= 0 && sort < SORTS && day >= 1 && day <= DAYS;
     }
 
     private static boolean isKindOfMen(int kind) {
@@ -715,7 +712,7 @@ public final class StrikeDays {
         }
 
         int cell(int i) {
-            return holds(i, 1) ? cells[i] : 0;
+            return i >= 0 && i < size ? cells[i] : 0;
         }
 
         int swap(int i, int v) {
@@ -758,6 +755,8 @@ public final class StrikeDays {
         };
 
         private final int[] sorts = new int[SIDES];
+        /** What all CHANCES of a side are together. */
+        private final int[] totals = new int[SIDES];
         private final int[][] chances = new int[SIDES][SORTS];
         private final int[][] costs = new int[SIDES][SORTS];
         private int value;
@@ -772,8 +771,8 @@ public final class StrikeDays {
         }
 
         void clear() {
-            sorts[MEN] = 0;
-            sorts[OWNERS] = 0;
+            Arrays.fill(sorts, 0);
+            Arrays.fill(totals, 0);
             value = 10;
             horizon = 20;
             last = 5;
@@ -786,6 +785,7 @@ public final class StrikeDays {
                 chances[side][s] = chance;
                 costs[side][s] = cost;
                 sorts[side] = s + 1;
+                totals[side] += chance;
             }
         }
 
@@ -807,11 +807,11 @@ public final class StrikeDays {
         }
 
         int sorts(int side) {
-            return within(side, MEN, OWNERS) ? sorts[side] : 0;
+            return side == MEN || side == OWNERS ? sorts[side] : 0;
         }
 
         boolean hasSort(int side, int s) {
-            return within(s, 0, sorts(side) - 1);
+            return (side == MEN || side == OWNERS) && s >= 0 && s < sorts[side];
         }
 
         int chance(int side, int s) {
@@ -829,13 +829,13 @@ public final class StrikeDays {
         int weight(int side, int set) {
             int sum = 0;
             for (int s = 0; s < sorts(side); s++) {
-                sum += contains(set, s) ? chance(side, s) : 0;
+                sum += contains(set, s) ? chances[side][s] : 0;
             }
             return sum;
         }
 
         int total(int side) {
-            return weight(side, everySort(side));
+            return side == MEN || side == OWNERS ? totals[side] : 0;
         }
 
         long pairs() {
@@ -853,17 +853,18 @@ public final class StrikeDays {
 
         long pay(int side, int s, int day, int settledWage) {
             long daily = side == MEN ? settledWage : value - settledWage;
-            return daily * (horizon - day + 1) - (long) cost(side, s) * (day - 1);
+            long cost = hasSort(side, s) ? costs[side][s] : 0;
+            return daily * (horizon - day + 1) - cost * (day - 1);
         }
 
-        boolean carries(int set) {
-            return 2 * weight(MEN, set) > total(MEN);
+        boolean carries(int weightOfMen) {
+            return 2 * weightOfMen > total(MEN);
         }
 
         int sortsToCarry() {
             int needed = sorts(MEN);
             for (int set = 1; set <= everySort(MEN); set++) {
-                if (carries(set)) {
+                if (carries(weight(MEN, set))) {
                     needed = Math.min(needed, Integer.bitCount(set));
                 }
             }
@@ -1081,11 +1082,11 @@ public final class StrikeDays {
             if (take.isPlainTake()) {
                 return wage >= take.number(m, day);
             }
-            int set = 0;
+            int weight = 0;
             for (int s = 0; s < quarrel.sorts(MEN); s++) {
-                set |= wage >= take.number(s, day) ? 1 << s : 0;
+                weight += wage >= take.number(s, day) ? quarrel.chance(MEN, s) : 0;
             }
-            return quarrel.carries(set);
+            return quarrel.carries(weight);
         }
 
         int wageOn(Way offer, int o, int day) {
