@@ -177,6 +177,10 @@ public final class MenTest {
         x.men(0, 0, 9, 1);
         x.men(3, 1, 50, 0);
         Check.due("kinds without MEN do not turn", x.turns(9), 4);
+        StrikeDays z = new StrikeDays();
+        z.men(0, 5, 50, 100);
+        z.men(1, 1, 3, 100);
+        Check.due("no FUND for the last man", z.turns(4), 0);
         StrikeDays y = new StrikeDays();
         y.men(0, 0, 50, 100);
         y.men(1, 10, 4, 100);
