@@ -1,3 +1,5 @@
+import java.util.Arrays;
+
 /** Counts answers that are not the ones due, and makes objects that stand ready for a test. */
 final class Check {
     private static int asked = 0;
@@ -37,6 +39,21 @@ final class Check {
         due(call + " findings()", x.findings(f), before + 1);
     }
 
+    /** All that can be seen from outside and that a refused call must leave as it is, but for FINDINGS. */
+    static long[] seen(StrikeDays x) {
+        return new long[] {x.digest(), x.asked(), x.upper(), x.lower()};
+    }
+
+    static long[] findings(StrikeDays x) {
+        return new long[] {
+            x.finding(), x.findings(1), x.findings(2), x.findings(3), x.findings(4), x.findings(5)
+        };
+    }
+
+    static void same(String call, long[] got, long[] want) {
+        due(call + ": " + Arrays.toString(got) + " for " + Arrays.toString(want), Arrays.equals(got, want) ? 1 : 0, 1);
+    }
+
     static void close() {
         System.out.println(asked + " answers, " + wrong + " not as due");
         if (wrong != 0 || asked == 0) {
@@ -55,6 +72,20 @@ final class Check {
         StrikeDays x = new StrikeDays();
         write(x, 0, signs);
         due("quarrel of " + signs, Math.min(x.quarrel(0), 2), 2);
+        return x;
+    }
+
+    /** An OFFER (WAY 0) and a TAKE (WAY 1), each of one number throughout. */
+    static StrikeDays level(String quarrel, int offered, int taken) {
+        StrikeDays x = quarrelOf(quarrel);
+        x.way(0, 1);
+        x.way(1, 2);
+        for (int sort = 0; sort < 3; sort++) {
+            for (int day = 1; day <= 10; day++) {
+                x.set(0, sort, day, offered);
+                x.set(1, sort, day, taken);
+            }
+        }
         return x;
     }
 
