@@ -2,6 +2,17 @@ import java.math.BigInteger;
 
 /** Sentences about RUNS, the JUDGE, what is thought and what is lost that name an edge, each with its own test. */
 public final class RunEdgesTest {
+    private interface Call {
+        int on(StrikeDays x);
+    }
+
+    private static final Call[] CALLS = {
+        x -> x.run(0, 1, 0, 0), x -> x.worth(0, 1, 0, 0), x -> x.worth(0, 1, 1, 0), x -> x.think(0, 1, 0, 1, 0, 0),
+        x -> x.think(0, 1, 0, 1, 1, 0), x -> x.end(0, 1, 2), x -> x.best(0, 0, 0), x -> x.best(1, 1, 0),
+        x -> x.rest(0, 1), x -> x.longer(0, 1), x -> x.lost(0, 1), x -> x.morning(0, 1, 0, 0), x -> x.law(0, 1),
+        x -> x.answer(0, 1), x -> x.reply(1, 0), x -> x.worth(0, 1, 0, 0), x -> x.worth(0, 1, 1, 0)
+    };
+
     public static void main(String[] args) {
         noLessThanWhatIsTaken();
         theFirstDay();
@@ -21,6 +32,7 @@ public final class RunEdgesTest {
         thinkBehindDays();
         thinkFromNoticeOn();
         thinkWhenNoneIsLeft();
+        sortsThatThereAreNot();
         thinkByVotes();
         oddsOfEachDay();
         daysLost();
@@ -348,6 +360,44 @@ public final class RunEdgesTest {
         // By the offers of another SORT one is left: MEN 0 take 4 on no day but the second.
         x.set(0, 1, 2, 1);
         Check.fraction(x, "by OWNERS 1", x.think(0, 1, 1, 3, 1, 0), 1, 1);
+    }
+
+    /** Numbers of SORTS that the QUARREL has not change no answer of a RUN, whatever they are. */
+    private static void sortsThatThereAreNot() {
+        Check.promise("one that there is not");
+        for (int kind = 2; kind <= 3; kind++) {
+            for (int men = 1; men <= 3; men++) {
+                for (int owners = 1; owners <= 3; owners++) {
+                    long[] due = answersOfARun(kind, men, owners, 0, 0);
+                    Check.same("12 and 13 of other SORTS", answersOfARun(kind, men, owners, 12, 13), due);
+                    Check.same("12 and 0 of other SORTS", answersOfARun(kind, men, owners, 12, 0), due);
+                    Check.same("0 and 13 of other SORTS", answersOfARun(kind, men, owners, 0, 13), due);
+                }
+            }
+        }
+    }
+
+    private static long[] answersOfARun(int kind, int men, int owners, int offered, int taken) {
+        StrikeDays x = Check.level("m1,1".repeat(men) + "o1,2".repeat(owners) + "h9l2w3", offered, taken);
+        if (kind == 3) {
+            x.way(1, 3);
+        }
+        for (int s = 0; s < 3; s++) {
+            for (int day = 1; day <= 10; day++) {
+                x.set(0, s, day, s < owners ? Math.min(4 + day, 12) : offered);
+                x.set(1, s, day, s < men ? 6 : taken);
+            }
+        }
+        // On day 2 all take 6: none is left.
+        int none = x.think(0, 1, 0, 2, 0, 0);
+        Check.due("NOUGHT", none == StrikeDays.FINDING ? x.finding() : none, 4);
+        long[] answers = new long[3 * CALLS.length];
+        for (int i = 0; i < CALLS.length; i++) {
+            answers[3 * i] = CALLS[i].on(x);
+            answers[3 * i + 1] = x.upper();
+            answers[3 * i + 2] = x.lower();
+        }
+        return answers;
     }
 
     private static void thinkByVotes() {
